@@ -188,7 +188,7 @@ public final class TurnFace {
         Puzzle found = findPuzzle(puzzle);
         checkNumber(seed, 0, LAST_SEED);
         long drawn = seed * 2654435761L;
-        drawn = (drawn ^ (drawn >>> 15)) & Long.MAX_VALUE;
+        drawn = (drawn ^ (drawn >>> 15)) & 0x7fffffffffffffffL;
         long size = found.chain.size;
         long number = size > 0 ? drawn % size : 0;
         found.state = found.chain.stateFor(number);
@@ -1404,6 +1404,7 @@ public final class TurnFace {
     /** A round: the attempts of all competitors in it, and what they come to. */
     private static final class Round {
         static final int MOST_ATTEMPTS = 5;
+        static final int BEHIND_ALL = 0x7fffffff;
 
         final char format;
         final int limit;
@@ -1562,7 +1563,7 @@ public final class TurnFace {
         }
 
         private static int compareFigures(int one, int other) {
-            return Integer.compare(one < 0 ? Integer.MAX_VALUE : one, other < 0 ? Integer.MAX_VALUE : other);
+            return Integer.compare(one < 0 ? BEHIND_ALL : one, other < 0 ? BEHIND_ALL : other);
         }
 
         /** Those without a result are alike, whatever time they took. */
@@ -1622,17 +1623,13 @@ public final class TurnFace {
             return better < Math.min(many, most) && better + countAlike(competitor) <= most;
         }
 
+        /** The more are told to advance the more do, so to tell all is to look at the most of them. */
         boolean keepsThreeQuarters() {
-            for (int many = 0; many <= MOST_COMPETITORS; many++) {
-                int count = 0;
-                for (int i = 0; i < MOST_COMPETITORS; i++) {
-                    count += goesOn(i, many) ? 1 : 0;
-                }
-                if (4 * count > 3 * countStarted()) {
-                    return false;
-                }
+            int count = 0;
+            for (int i = 0; i < MOST_COMPETITORS; i++) {
+                count += goesOn(i, MOST_COMPETITORS) ? 1 : 0;
             }
-            return true;
+            return 4 * count <= 3 * countStarted();
         }
     }
 }
