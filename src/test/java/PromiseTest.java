@@ -299,6 +299,8 @@ public final class PromiseTest {
         due("9 by pieces", x.swap(0, 3, 1), 1);
         due("9 by pieces", pieces(x, 0, 4), "1320");
         due("9 itself", x.swap(0, 2, 2), 1);
+        due("9 with 0", x.swap(0, 1, 0), 2);
+        due("9 with 0", x.swap(0, 0, 1), 1);
         due("10", x.reset(0), 3);
         due("10", pieces(x, 0, 4), "0123");
         due("10 again", x.reset(0), 0);
@@ -402,8 +404,13 @@ public final class PromiseTest {
         addRing(x, 1, 3, 0, 1, 2, 3, 4, 5);
         due("16 six by three", x.isOdd(1), true);
         due("17 six by three", x.orbits(1), 1);
-        fails("16 puzzle", INDEX, () -> x.isOdd(2));
-        fails("17 puzzle", INDEX, () -> x.orbits(2));
+        x.puzzle(4);
+        addRing(x, 2, 1, 0, 1, 2, 3);
+        due("16 first ring", x.isOdd(2), true);
+        addRing(x, 2, 1, 0, 1, 2);
+        due("16 first ring of two", x.isOdd(2), true);
+        fails("16 puzzle", INDEX, () -> x.isOdd(3));
+        fails("17 puzzle", INDEX, () -> x.orbits(3));
     }
 
     private static void period() {
@@ -533,6 +540,7 @@ public final class PromiseTest {
     private static void search() {
         TurnFace x = four();
         due("25 solved", x.search(0, 0), 0);
+        fails("26 solved", MISSING, () -> x.searchAt(0, 0, 0));
         x.turn(0, 'A', 1);
         x.turn(0, 'B', -1);
         due("25 too few", x.search(0, 1), -1);
@@ -680,6 +688,12 @@ public final class PromiseTest {
         typeAll(x, "AA-A2BB-A");
         due("30 q as they stand", x.length('q'), 7);
         due("30 t as they stand", x.length('t'), 3);
+        String[] rows = {"AB", "BB", "CDDC-", "DC", "A2B2-"};
+        int[] runs = {2, 1, 3, 2, 2};
+        for (int i = 0; i < rows.length; i++) {
+            typeAll(x, rows[i]);
+            due("30 t " + rows[i], x.length('t'), runs[i]);
+        }
         typeAll(x, "A<>A");
         due("30 t over nothing", x.length('t'), 1);
     }
@@ -791,6 +805,9 @@ public final class PromiseTest {
         TurnFace y = competing(1, 'b', 100, 0);
         due("35 limit in b", y.attempt(0, 0, 0, 101, 0, false), 0);
         due("35 limit in b, behind", y.attempt(0, 0, 0, 1, 0, false), 0);
+        TurnFace w = competing(1, 'b', 1, 0);
+        due("35 limit of 1", w.attempt(0, 0, 0, 1, 0, false), 1);
+        due("35 limit of 1, behind", w.attempt(0, 0, 0, 1, 0, false), 0);
         TurnFace z = competing(1, 'm', 100, 0);
         due("37 no limit in m", z.several(0, 0, 2, 2, 5000), 2);
     }
@@ -811,6 +828,9 @@ public final class PromiseTest {
         fails("35 three, none below", REFUSED, () -> y.attempt(0, 0, 0, 500, 0, false));
         times(y, 0, 1, 999, 2000, 2000);
         due("35 three, below", y.attempts(0, 1), 3);
+        TurnFace w = competing(1, '3', 0, 2);
+        times(w, 0, 0, 1, 1, 1);
+        due("35 three, least below", w.attempts(0, 0), 3);
         TurnFace z = competing(1, 'b', 0, 1000);
         times(z, 0, 0, 2000, 2000, 2000);
         due("35 no cut-off in b", z.attempts(0, 0), 3);
@@ -961,6 +981,14 @@ public final class PromiseTest {
             due("41 several " + i, x.rank(0, i), ranks[i]);
         }
         fails("41 several, no attempt", MISSING, () -> x.rank(0, 8));
+        TurnFace y = competing(4, 'm', 0, 0);
+        y.several(0, 0, 4, 4, 500);
+        y.several(0, 1, 6, 5, 400);
+        due("41 time ahead of unsolved", y.rank(0, 0), 2);
+        due("41 time ahead of unsolved", y.rank(0, 1), 1);
+        y.several(0, 2, 2, 1, 1);
+        y.several(0, 3, 2, 0, 2);
+        expectAdvancing("42 several, alike without a result", y, 12, "yynn");
     }
 
     private static void expectAdvancing(String name, TurnFace x, int many, String due) {
@@ -1139,6 +1167,9 @@ public final class PromiseTest {
         due("46 no result", x.resultShare(), 0.0f);
         times(x, 0, 0, 1000, 1000);
         due("46 two of three", x.resultShare(), 2.0f / 3.0f);
+        TurnFace y = competing(1, 'b', 0, 0);
+        times(y, 0, 0, 1);
+        due("46 least result", y.resultShare(), 1.0f);
         x.round('m', 0, 0);
         x.several(1, 0, 4, 2, 1);
         x.several(1, 1, 4, 1, 1);
