@@ -1147,15 +1147,15 @@ public final class TurnFace {
             gather(puzzle);
             long start = Row.through(puzzle.paint, puzzle.state);
             for (int turns = 0; turns <= most; turns++) {
-                if (reaches(puzzle, start, 0, turns)) {
+                if (reaches(this, puzzle, start, 0, turns)) {
                     return turns;
                 }
             }
             return NONE;
         }
 
-        private boolean reaches(Puzzle puzzle, long row, int done, int left) {
-            if (left <= HALF_WAY && !isWithin(row, left)) {
+        private static boolean reaches(Seeker seeker, Puzzle puzzle, long row, int done, int left) {
+            if (left <= HALF_WAY && !seeker.isWithin(row, left)) {
                 return false;
             }
             if (left <= 0) {
@@ -1165,8 +1165,8 @@ public final class TurnFace {
                 return false;
             }
             for (int arm = 0; arm < 2 * puzzle.ringCount && arm < MOST_ARMS; arm++) {
-                way[done] = arm;
-                if (reaches(puzzle, Row.through(row, puzzle.arms[arm]), done + 1, left - 1)) {
+                seeker.way[done] = arm;
+                if (reaches(seeker, puzzle, Row.through(row, puzzle.arms[arm]), done + 1, left - 1)) {
                     return true;
                 }
             }

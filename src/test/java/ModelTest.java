@@ -29,6 +29,9 @@ public final class ModelTest {
         for (int seed = first; seed < first + runs && wrong < 5; seed++) {
             wrong += new Run(seed).isAsDue() ? 0 : 1;
         }
+        for (int seed = first; seed < first + runs / 8 && wrong < 5; seed++) {
+            wrong += new Run(seed).findsWays() ? 0 : 1;
+        }
         System.out.println(wrong == 0 ? runs + " runs are as the model has them" : wrong + " runs are not");
         if (wrong != 0) {
             System.exit(1);
@@ -154,6 +157,40 @@ public final class ModelTest {
                 }
             }
             return true;
+        }
+
+        /** Many rings on many places, so that far more states are near than in the other runs. */
+        boolean findsWays() {
+            pending.clear();
+            pending.add(() -> pair("puzzle", () -> face.puzzle(8 + seed % 3), () -> model.puzzle(8 + seed % 3)));
+            for (int i = 0; i < 4; i++) {
+                pending.add(() -> planRing(0));
+            }
+            for (int i = 0; i < 3 && seed % 4 == 0; i++) {
+                int place = draw(0, 7);
+                pending.add(() -> pair("colour", () -> face.colour(0, place, 0), () -> model.colour(0, place, 0)));
+            }
+            boolean isAsDue = true;
+            while (!pending.isEmpty()) {
+                isAsDue &= isAlike(pending.remove().get());
+            }
+            for (int turns = 0; turns < 16; turns++) {
+                char ring = (char) ('A' + random.nextInt(model.puzzles.get(0).rings.size()));
+                int times = random.nextBoolean() ? 1 : -1;
+                isAsDue &= isAlike(pair("turn", () -> face.turn(0, ring, times), () -> model.turn(0, ring, times)));
+                int most = turns % 4 == 3 ? 6 : 3 + turns % 3;
+                int index = random.nextInt(5);
+                isAsDue &= isAlike(pair("search, turn " + turns, () -> face.search(0, most), () -> model.search(0, most)));
+                isAsDue &= isAlike(pair("searchAt, turn " + turns, () -> face.searchAt(0, most, index), () -> model.searchAt(0, most, index)));
+            }
+            return isAsDue;
+        }
+
+        boolean isAlike(String[] pair) {
+            if (!pair[1].equals(pair[2])) {
+                System.out.println("ways, seed " + seed + ": " + pair[0] + " answered " + pair[1] + ", due is " + pair[2]);
+            }
+            return pair[1].equals(pair[2]);
         }
 
         int draw(int low, int high) {

@@ -632,7 +632,7 @@ public final class PromiseTest {
 
     private static void noWords() {
         TurnFace x = new TurnFace();
-        String[] rows = {"2", "-", "A--", "A-2", "A22", "A2-3", "<", ">", "<A", "A>", "[", "]", "|", "[A]", "[A|B", "[A|B|C]", "<A|B>", "[A|B>", "<A]", "[<A|B>]", "<2>", "<->", "[|2]", "[2|]", "A|B", "[A||B]"};
+        String[] rows = {"2", "-", "A--", "A-2", "A22", "A2-3", "<", ">", "<A", "A>", "[", "]", "|", "[A]", "[A|B", "[A|B|C]", "<A|B>", "[A|B>", "<A]", "[<A|B>]", "<2>", "<->", "[|2]", "[2|]", "A|B", "[A||B]", "[A|2B]", "[A|-B]", "[A2|3]", "<A2>-2", "A<2>", "B3[-|]"};
         for (String row : rows) {
             typeAll(x, row);
             due("29 " + row, x.isWord(), false);
@@ -908,6 +908,7 @@ public final class PromiseTest {
         int[][] fives = {
             {1000, 1001, 1001, 1000, 900, 1000}, {1000, 1001, 1001, 3000, 900, 1001}, {1000, 1000, 1001, 3000, 900, 1000},
             {-1, 1000, 1001, 1002, 900, 1001}, {-1, -2, 1000, 1000, 1000, -1}, {5, 5, 5, 5, 5, 5}, {1, 1, 1, 2, 3, 1},
+            {1000, 1001, -9, 1001, 900, 1001}, {1000, 1000, 1001, -9, 900, 1000}, {-1, 1, 2, 2, 1, 2},
         };
         for (int[] row : fives) {
             TurnFace x = competing(1, '5', 0, 0);
@@ -989,6 +990,13 @@ public final class PromiseTest {
         y.several(0, 2, 2, 1, 1);
         y.several(0, 3, 2, 0, 2);
         expectAdvancing("42 several, alike without a result", y, 12, "yynn");
+        TurnFace z = competing(3, 'm', 0, 0);
+        z.several(0, 0, 4, 2, 300);
+        z.several(0, 1, 4, 2, 200);
+        z.several(0, 2, 6, 3, 200);
+        due("41 no points, by time", z.rank(0, 0), 3);
+        due("41 no points, by time", z.rank(0, 1), 1);
+        due("41 no points, by unsolved", z.rank(0, 2), 2);
     }
 
     private static void expectAdvancing(String name, TurnFace x, int many, String due) {
