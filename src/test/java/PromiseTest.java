@@ -1,18 +1,5 @@
-import java.util.NoSuchElementException;
-
 /** For each promise of the document answers worked out by hand: ordinary ones, the edges it names, and wrong inputs in their order. */
-public final class PromiseTest {
-    private static final Class<?> RANGE = IllegalArgumentException.class;
-    private static final Class<?> INDEX = IndexOutOfBoundsException.class;
-    private static final Class<?> REFUSED = UnsupportedOperationException.class;
-    private static final Class<?> FULL = IllegalStateException.class;
-    private static final Class<?> MISSING = NoSuchElementException.class;
-    private static int wrong;
-
-    private interface Call {
-        Object get();
-    }
-
+public final class PromiseTest extends Lab {
     public static void main(String[] args) {
         examples();
         newObject();
@@ -57,75 +44,7 @@ public final class PromiseTest {
         checksum();
         isSound();
         nothingChanges();
-        System.out.println(wrong == 0 ? "all promises hold" : wrong + " answers are not as due");
-        if (wrong != 0) {
-            System.exit(1);
-        }
-    }
-
-    private static void due(String name, Object got, Object want) {
-        if (!String.valueOf(got).equals(String.valueOf(want))) {
-            wrong++;
-            System.out.println(name + " answered " + got + ", due is " + want);
-        }
-    }
-
-    /** The exact class is asked for, so that what the machine throws by itself does not pass. */
-    private static void fails(String name, Class<?> want, Call call) {
-        Object got;
-        try {
-            got = call.get();
-        } catch (RuntimeException e) {
-            got = e.getClass();
-        }
-        due(name, got, want);
-    }
-
-    private static void typeAll(TurnFace x, String signs) {
-        x.wipe();
-        for (char sign : signs.toCharArray()) {
-            x.type(sign);
-        }
-    }
-
-    private static void addRing(TurnFace x, int puzzle, int step, int... places) {
-        x.wipePlaces();
-        for (int place : places) {
-            x.typePlace(place);
-        }
-        x.ring(puzzle, step);
-    }
-
-    private static String pieces(TurnFace x, int puzzle, int places) {
-        StringBuilder row = new StringBuilder();
-        for (int i = 0; i < places; i++) {
-            row.append(x.pieceAt(puzzle, i));
-        }
-        return row.toString();
-    }
-
-    /** Four places, A a ring of the first three, B the last two swapped: all 24 states. */
-    private static TurnFace four() {
-        TurnFace x = new TurnFace();
-        x.puzzle(4);
-        addRing(x, 0, 1, 0, 1, 2);
-        addRing(x, 0, 1, 2, 3);
-        return x;
-    }
-
-    private static TurnFace competing(int competitors, char format, int limit, int cutoff) {
-        TurnFace x = new TurnFace();
-        for (int i = 0; i < competitors; i++) {
-            x.competitor(0);
-        }
-        x.round(format, limit, cutoff);
-        return x;
-    }
-
-    private static void times(TurnFace x, int round, int competitor, int... times) {
-        for (int time : times) {
-            x.attempt(round, competitor, 0, Math.abs(time), 0, time < 0);
-        }
+        end("all promises hold");
     }
 
     private static void examples() {
@@ -997,14 +916,6 @@ public final class PromiseTest {
         due("41 no points, by time", z.rank(0, 0), 3);
         due("41 no points, by time", z.rank(0, 1), 1);
         due("41 no points, by unsolved", z.rank(0, 2), 2);
-    }
-
-    private static void expectAdvancing(String name, TurnFace x, int many, String due) {
-        StringBuilder got = new StringBuilder();
-        for (int i = 0; i < due.length(); i++) {
-            got.append(x.advances(0, i, many) ? 'y' : 'n');
-        }
-        due(name, got, due);
     }
 
     private static void advances() {
