@@ -277,6 +277,14 @@ public final class AttemptEdgesTest extends Lab {
     }
 
     @Edge(promise = 35, says = "and so are all behind it")
+    static void behindOneAboveByItsCosts() {
+        TurnFace x = limited('3', 1199);
+        due("1000 and 200", first(x, 1600, 1000, 0), 0);
+        due("100 behind it", first(x, 0, 100, 0), 0);
+        due("1 behind that", first(x, 0, 1, 0), 0);
+    }
+
+    @Edge(promise = 35, says = "and so are all behind it")
     static void behindAPopBeyondTheLimit() {
         TurnFace x = limited('5', 1000);
         times(x, 0, 0, -1000);

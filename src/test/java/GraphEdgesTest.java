@@ -128,6 +128,18 @@ public final class GraphEdgesTest extends Lab {
         due("unlike again", x.distance(0, 'q'), 2);
     }
 
+    @Edge(promise = 22, says = "whatever solved state this is")
+    static void askedAheadOfAColour() {
+        TurnFace x = ringed(4, 1);
+        x.turn(0, 'A', 2);
+        due("unlike, t", x.distance(0, 't'), 1);
+        x.colour(0, 2, 0);
+        x.colour(0, 3, 1);
+        due("alike two and two, t", x.distance(0, 't'), 0);
+        x.colour(0, 3, 3);
+        due("alike but for two, t", x.distance(0, 't'), 1);
+    }
+
     @Edge(promise = 22, says = "If several exceptions apply, the one that is documented first is thrown.")
     static void distanceOfTwo() {
         throwsTheFirst((x, p, c) -> x.distance(p, c));
@@ -187,6 +199,21 @@ public final class GraphEdgesTest extends Lab {
         due("outside", x.god(0, 'q'), 2);
         x.toNumber(0, 3);
         due("inside", x.god(0, 'q'), 2);
+    }
+
+    @Edge(promise = 23, says = "the greatest of all states of the group is the puzzle's number of God")
+    static void askedAheadOfARing() {
+        TurnFace x = bare(4);
+        int[][] gods = {{0, 0}, {1, 1}, {3, 3}, {6, 6}};
+        for (int rings = 0; rings <= 3; rings++) {
+            due(rings + " rings, q", x.god(0, 'q'), gods[rings][0]);
+            due(rings + " rings, t", x.god(0, 't'), gods[rings][1]);
+            if (rings < 3) {
+                addRing(x, 0, 1, rings, rings + 1);
+            }
+        }
+        addRing(x, 0, 2, 0, 1, 2, 3);
+        due("four rings, q", x.god(0, 'q') < 6, true);
     }
 
     @Edge(promise = 23, says = "If several exceptions apply, the one that is documented first is thrown.")
@@ -413,6 +440,33 @@ public final class GraphEdgesTest extends Lab {
         int[] way = {0, 2, 0};
         for (int i = 0; i < 3; i++) {
             due("ABA or BAB, " + i, y.searchAt(0, 6, i), way[i]);
+        }
+    }
+
+    /** The ways were found by trying all rows of turns, shorter ones first. */
+    @Edge(promise = 26, says = "of several such by its turns, one by one, rings in their order, forward ahead of back")
+    static void sixTurnsOfFourRings() {
+        String[][] told = {
+            {"ABCDAB", "317531"}, {"aBcDaB", "307430"}, {"DDCCBB", "335577"}, {"dcbaDC", "065562"}, {"ABABAB", "313131"},
+            {"abCDab", "207520"}, {"CdCdCd", "474747"}, {"AADDaa", "007711"}, {"BDACbd", "625173"}, {"DaBcDa", "074307"},
+            {"CBcbCB", "352435"}, {"bDbDbD", "727272"}, {"aCaCaC", "505050"}, {"AAABBB", "222111"}, {"cccddd", "666444"},
+        };
+        TurnFace x = ringed(10, 1);
+        addRing(x, 0, 1, 2, 9, 4, 8, 6, 1);
+        addRing(x, 0, 1, 9, 0, 5, 7, 3, 8, 2);
+        addRing(x, 0, 3, 1, 4, 9, 6, 0, 3, 8, 5);
+        for (String[] row : told) {
+            x.reset(0);
+            for (char turn : row[0].toCharArray()) {
+                x.turn(0, Character.toUpperCase(turn), Character.isUpperCase(turn) ? 1 : -1);
+            }
+            due(row[0] + " by five", x.search(0, 5), -1);
+            due(row[0] + " by six", x.search(0, 6), 6);
+            StringBuilder way = new StringBuilder();
+            for (int i = 0; i < 6; i++) {
+                way.append(x.searchAt(0, 6, i));
+            }
+            due("the way of " + row[0], way, row[1]);
         }
     }
 

@@ -72,6 +72,11 @@ public final class GroupEdgesTest extends Lab {
             addRing(x, 0, 1, i, i + 1);
             due("ring " + i, x.order(0), orders[i]);
         }
+        TurnFace z = bare(5);
+        for (int i = 0; i < 4; i++) {
+            addRing(z, 0, 1, 3 - i, 4 - i);
+            due("ring " + i + ", from the end", z.order(0), orders[i]);
+        }
         TurnFace y = four();
         addRing(y, 0, 2, 0, 1, 2);
         due("a ring that adds nothing", y.order(0), 24);

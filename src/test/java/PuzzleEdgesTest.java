@@ -206,6 +206,19 @@ public final class PuzzleEdgesTest extends Lab {
         due("9 of ten", bareAndTyped(10, 0, 9).ring(0, 1), 1);
     }
 
+    @Edge(promise = 5, says = "one is no place of it")
+    static void wipedPlacesDoNotCount() {
+        TurnFace x = bareAndTyped(3, 0, 1, 9);
+        x.wipePlaces();
+        typePlaces(x, 0, 1);
+        due("behind a wiped 9", x.ring(0, 1), 1);
+        TurnFace y = bareAndTyped(10, 0, 9);
+        y.ring(0, 1);
+        y.puzzle(3);
+        typePlaces(y, 0);
+        fails("one typed, one of the ring ahead", RANGE, () -> y.ring(1, 1));
+    }
+
     @Edge(promise = 5, says = "a step, 1 to one less than its places")
     static void leastStep() {
         refused("0", RANGE, () -> bareAndTyped(4, 0, 1, 2), x -> x.ring(0, 0));

@@ -132,6 +132,8 @@ public final class ResultEdgesTest extends Lab {
         due("none", one('5', 100, 200, 300, 400, 500).average(0, 0), 300);
         due("one, the last", one('5', 100, 200, 300, 400, -1).average(0, 0), 300);
         due("one, the first", one('5', -1, 200, 300, 400, 500).average(0, 0), 400);
+        due("one, a sum of 901", one('5', 100, 200, 300, 401, -1).average(0, 0), 300);
+        due("one, a sum of 902", one('5', 100, 200, 300, 402, -1).average(0, 0), 301);
         refused("two", MISSING, () -> one('5', 100, -1, 200, 300, -1), x -> x.average(0, 0));
         refused("all", MISSING, () -> one('5', -1, -1, -1, -1, -1), x -> x.average(0, 0));
     }
@@ -338,6 +340,15 @@ public final class ResultEdgesTest extends Lab {
         expectAdvancing("one too many", y, 2, "ynnnnnnn");
         expectAdvancing("one too many, told more", y, 12, "ynnnnnnn");
         expectAdvancing("all alike", once('b', 1, 1, 1, 1), 12, "nnnn");
+    }
+
+    @Edge(promise = 42, says = "those alike at the line of those who advance do all")
+    static void alikeOfSeveral() {
+        TurnFace x = several(new int[] {2, 2, 1}, new int[] {2, 1, 1}, new int[] {3, 1, 2}, new int[] {9, 0, 3});
+        expectAdvancing("three without a result at the line", x, 3, "ynnn");
+        TurnFace y = several(new int[] {2, 2, 1}, new int[] {2, 2, 1}, new int[] {4, 3, 1}, new int[] {2, 2, 2});
+        expectAdvancing("two of as many points and unsolved ones", y, 1, "yynn");
+        expectAdvancing("and one of more unsolved ones", y, 3, "yyyn");
     }
 
     @Edge(promise = 42, says = "if these are no more than three quarters then")

@@ -173,7 +173,7 @@ public final class WordEdgesTest extends Lab {
 
     @Edge(promise = 29, says = "Behind a part can stand a digit")
     static void digitsBehindNoPart() {
-        for (String row : new String[] {"2", "9A", "<2>", "[2|]", "[A|2]", "[|2B]", "A22", "A2<3>", "<A>23", "[A2|B]29"}) {
+        for (String row : new String[] {"2", "9A", "<2>", "[2|]", "[A|2]", "[|2B]", "A22", "A<2>", "A2<3>", "A[2|]", "A|2", "[A|]<2>", "<A>23", "[A2|B]29"}) {
             expectNoWord(row);
         }
     }
@@ -184,9 +184,25 @@ public final class WordEdgesTest extends Lab {
         expectTurns("A2-", "11");
         expectTurns("<A>-", "1");
         expectTurns("<A->-", "0");
-        for (String row : new String[] {"-", "-A", "A--", "A2--", "A-2", "A-2-", "<->", "[-|]", "[|-]", "[A|-B]", "<A>--", "[A|B]-2"}) {
+        for (String row : new String[] {"-", "-A", "A--", "A2--", "A-2", "A-2-", "<->", "[-|]", "[|-]", "A<->", "A[-|]", "[A|-]", "[A|-B]", "<A>--", "[A|B]-2"}) {
             expectNoWord(row);
         }
+    }
+
+    @Edge(promise = 29, says = "Behind a part can stand a digit")
+    static void noPartOfARowAhead() {
+        for (String row : new String[] {"A", "<A>", "[A|B]2"}) {
+            TurnFace x = worded(row);
+            due("'" + row + "'", x.isWord(), true);
+            typeAll(x, "2");
+            due("'2' behind the wiped '" + row + "'", x.isWord(), false);
+            typeAll(x, "-");
+            due("'-' behind the wiped '" + row + "'", x.isWord(), false);
+        }
+        TurnFace y = worded("<<[");
+        due("'<<['", y.isWord(), false);
+        typeAll(y, ">>");
+        due("'>>' behind the wiped '<<['", y.isWord(), false);
     }
 
     @Edge(promise = 29, says = "its turns from the last one on, each back")
