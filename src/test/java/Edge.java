@@ -3,7 +3,7 @@ import java.lang.annotation.Retention;
 import java.lang.annotation.RetentionPolicy;
 import java.lang.annotation.Target;
 
-/** A test of one boundary: the promise's number, and the words of ../shared/DOC.md that would be broken if it failed. */
+/** A test of one sentence, or of a boundary in it: the promise's number, and the words of ../shared/DOC.md that are broken if it fails. */
 @Retention(RetentionPolicy.RUNTIME)
 @Target(ElementType.METHOD)
 @interface Edge {

@@ -31,7 +31,7 @@ abstract class Lab {
 
     // ---- running
 
-    /** Each boundary's test by itself, in the order of the promises, so that one that fails hides no other. */
+    /** Each boundary's or sentence's test by itself, in the order of the promises, so that one that fails hides no other. */
     static void runEdges(Class<?> tests) throws IllegalAccessException {
         List<Method> edges = edgesOf(tests);
         for (Method edge : edges) {
@@ -42,7 +42,7 @@ abstract class Lab {
                 due("it", "ended with " + e.getCause(), "no exception");
             }
         }
-        end(edges.size() + " boundaries hold");
+        end(edges.size() + " hold");
     }
 
     static List<Method> edgesOf(Class<?> tests) {
